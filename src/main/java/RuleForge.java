@@ -44,12 +44,13 @@ public final class RuleForge {
     private static final int LEFT = 0, RIGHT = 1, CONDITION = 2, ALL_PARTS = 4;
 
     /**
-     * A term is a row of codes, one for each of its places. A variable's code is its number, and
-     * that of an operator with its number of arguments begins here, 8 for each operator: so the
-     * order of terms is that of their rows.
+     * A term is a row of codes, one for each of its places. A variable's code is its number. Behind
+     * these an operator has 8 codes, one for each number of arguments: so the order of terms is that
+     * of their rows.
      */
-    private static final int FIRST_CODE = 32;
     private static final int CODES = 8;
+    private static final int BEFORE_OPERATORS = 4;
+    private static final int FIRST_CODE = BEFORE_OPERATORS * CODES;
 
     private static final int STACK_AT = ALL_VARIABLES;
     private static final int SLOTS_AT = STACK_AT + MOST_STACKED * MOST_SIZE;
@@ -59,6 +60,8 @@ public final class RuleForge {
     private static final int WORK_AT = TESTS_AT + MOST_STRATEGIES * MOST_PARTS * MOST_SIZE;
     /** Four conditions deep, each with 20 terms that wait and a list of matches, take half of it. */
     private static final int CELLS = WORK_AT + 60000;
+    /** Behind this no term begins, so that there is room for its end. */
+    private static final int FULL = CELLS - 2 * MOST_SIZE;
     private static final int WAITING = 1000;
 
     private final Signature signature;
@@ -611,8 +614,9 @@ public final class RuleForge {
         return variable >= 0 && variable < VARIABLES;
     }
 
+    /** Below 0 for a variable. */
     private static int operatorIn(int code) {
-        return (code - FIRST_CODE) / CODES;
+        return code / CODES - BEFORE_OPERATORS;
     }
 
     /** The sorts, the operators, and what is told about them. */
@@ -684,13 +688,14 @@ public final class RuleForge {
             int count = arity[operator];
             for (int d = 0; d < declarations[operator]; d++) {
                 int at = (operator * MOST_DECLARATIONS + d) * (MOST_ARITY + 1);
-                boolean fits = (count < 1 || reaches(first, declared[at + 1]))
-                        && (count < 2 || reaches(second, declared[at + 2]))
-                        && (count < 3 || reaches(third, declared[at + 3]));
-                if (!fits && axioms[operator] == PAIR) {
-                    fits = reaches(second, declared[at + 1]) && reaches(first, declared[at + 2]);
-                }
-                if (fits) {
+                int one = declared[at + 1];
+                int two = declared[at + 2];
+                boolean fits = (count < 1 || (reached[first + 1] >> one & 1) == 1)
+                        && (count < 2 || (reached[second + 1] >> two & 1) == 1)
+                        && (count < 3 || (reached[third + 1] >> declared[at + 3] & 1) == 1);
+                boolean fitsSwapped = axioms[operator] == PAIR
+                        && (reached[second + 1] >> one & reached[first + 1] >> two & 1) == 1;
+                if (fits || fitsSwapped) {
                     return declared[at];
                 }
             }
@@ -707,7 +712,9 @@ public final class RuleForge {
         /** The arguments that wait for their operators. */
         final int[] waiting = new int[WAITING];
         int awaited;
+        /** The arguments of the term that is made, and their sizes. */
         private final int[] spread = new int[MOST_ARGUMENTS];
+        private final int[] spreadSize = new int[MOST_ARGUMENTS];
         /** What rebuild puts in place of each variable, or NONE. */
         final int[] given = new int[ALL_VARIABLES];
         /** The place that rebuild fills, or NONE, and with what. */
@@ -801,7 +808,7 @@ public final class RuleForge {
             return cells[at] >= FIRST_CODE && canBePattern(at);
         }
 
-        int sortAt(int at) {
+        private int sortAt(int at) {
             int code = cells[at];
             if (code < FIRST_CODE) {
                 return signature.variableSort[code % VARIABLES];
@@ -829,43 +836,18 @@ public final class RuleForge {
          * Returns where the new term begins, or NONE if it would be too large.
          */
         int putOn(int operator, int base) {
-            int count = spreadOut(operator, base);
-            awaited = base;
-            boolean isJoined = signature.axioms[operator] >= ROW;
-            if (count == 1 && isJoined) {
-                return spread[0];
-            }
-            if (count == NONE || top > CELLS - 2 * MOST_SIZE) {
-                return NONE;
-            }
-            int whole = count == 0 && isJoined ? signature.identity[operator] : operator;
-            int at = top;
-            cells[at] = FIRST_CODE + whole * CODES + count;
-            int next = at + 1;
-            for (int i = 0; i < count; i++) {
-                int size = end(spread[i]) - spread[i];
-                if (next - at + size > MOST_SIZE) {
-                    return NONE;
-                }
-                System.arraycopy(cells, spread[i], cells, next, size);
-                next += size;
-            }
-            top = next;
-            return at;
-        }
-
-        /** Returns how many arguments there are in the form of a term, or NONE if too many. */
-        private int spreadOut(int operator, int base) {
             int axioms = signature.axioms[operator];
-            boolean hasIdentity = signature.identity[operator] != NONE;
-            int identity = hasIdentity ? FIRST_CODE + signature.identity[operator] * CODES : NONE;
             boolean isJoined = axioms >= ROW;
+            int identity = signature.identity[operator];
+            int left = identity == NONE ? NONE : FIRST_CODE + identity * CODES;
+            int last = awaited;
             int count = 0;
-            for (int i = base; i < awaited; i++) {
+            awaited = base;
+            for (int i = base; i < last; i++) {
                 int part = waiting[i];
                 int code = cells[part];
-                boolean isSame = isJoined && code >= FIRST_CODE && operatorIn(code) == operator;
-                int parts = isSame ? code % CODES : code == identity ? 0 : 1;
+                boolean isSame = isJoined && code / CODES - BEFORE_OPERATORS == operator;
+                int parts = isSame ? code % CODES : code == left ? 0 : 1;
                 part += isSame ? 1 : 0;
                 for (int k = 0; k < parts; k++) {
                     if (count >= MOST_ARGUMENTS) {
@@ -874,21 +856,44 @@ public final class RuleForge {
                     int to = count;
                     while (to > 0 && (axioms == PAIR || axioms == BAG) && order(part, spread[to - 1]) < 0) {
                         spread[to] = spread[to - 1];
+                        spreadSize[to] = spreadSize[to - 1];
                         to--;
                     }
                     spread[to] = part;
-                    count++;
                     part = end(part);
+                    spreadSize[to] = part - spread[to];
+                    count++;
                 }
             }
-            return count;
+            if (count == 1 && isJoined) {
+                return spread[0];
+            }
+            return write(count == 0 && isJoined ? left : FIRST_CODE + operator * CODES + count, count);
+        }
+
+        private int write(int code, int count) {
+            int at = top;
+            if (at >= FULL) {
+                return NONE;
+            }
+            cells[at] = code;
+            int next = at + 1;
+            for (int i = 0; i < count; i++) {
+                if (next - at + spreadSize[i] > MOST_SIZE) {
+                    return NONE;
+                }
+                System.arraycopy(cells, spread[i], cells, next, spreadSize[i]);
+                next += spreadSize[i];
+            }
+            top = next;
+            return at;
         }
 
         /**
          * Makes a term again from the innermost operators out, with what is given for variables,
          * the hole filled, and operators replaced if it is viewed. NONE if one would be too large.
          */
-        int rebuild(int at) {
+        private int rebuild(int at) {
             if (at == hole) {
                 return filling;
             }
@@ -984,26 +989,27 @@ public final class RuleForge {
     private static final class Pieces {
         private static final int MOST = 256;
         private static final int MASKS = 1 << MOST_ARGUMENTS;
-        private static final int UNKNOWN = -3;
         final Terms terms;
         private final Signature signature;
         int count;
         final int[] where = new int[MOST];
-        /** The place in the subject whose arguments it has, or NONE, and which of these, as bits. */
-        final int[] node = new int[MOST];
-        final int[] mask = new int[MOST];
+        private final int[] sizes = new int[MOST];
+        /** The outermost operator; below 0 for a variable. */
+        final int[] heads = new int[MOST];
+        /** The place in the subject whose arguments it has, and which of these, as bits. */
+        private final int[] nodes = new int[MOST];
+        private final int[] masks = new int[MOST];
         /** The first one that is the same term. */
         final int[] same = new int[MOST];
-        private final int[] sorts = new int[MOST];
         /** The different ones in the order of terms, and the place of each there. */
         int different;
-        private final int[] sorted = new int[MOST];
+        final int[] sorted = new int[MOST];
         final int[] rank = new int[MOST];
-        /** For each place of the subject its arguments' places, and the pieces of these. */
-        final int[] child = new int[MOST_SIZE * MOST_ARGUMENTS];
+        /** For each place of the subject the places of its arguments, and the parts of these. */
+        private final int[] child = new int[MOST_SIZE * MOST_ARGUMENTS];
         private final int[] part = new int[MOST_SIZE * MASKS];
         /** The piece that is the identity of each operator, or NONE. */
-        final int[] unit = new int[MOST_OPERATORS];
+        private final int[] unit = new int[MOST_OPERATORS];
         /** Where the terms of the different pieces are told, by rank. */
         int rankedAt;
 
@@ -1012,14 +1018,15 @@ public final class RuleForge {
             signature = terms.signature;
         }
 
-        private int add(int at, int itsNode, int itsMask) {
+        private int add(int at, int size, int node, int mask) {
             if (count >= MOST) {
                 return 0;
             }
             where[count] = at;
-            node[count] = itsNode;
-            mask[count] = itsMask;
-            sorts[count] = UNKNOWN;
+            sizes[count] = size;
+            heads[count] = terms.cells[at] / CODES - BEFORE_OPERATORS;
+            nodes[count] = node;
+            masks[count] = mask;
             count++;
             return count - 1;
         }
@@ -1036,61 +1043,52 @@ public final class RuleForge {
                     child[count * MOST_ARGUMENTS + i] = next - subject;
                     next = terms.end(next);
                 }
-                add(at, count, (1 << arguments) - 1);
+                add(at, next - at, count, (1 << arguments) - 1);
             }
         }
 
         void addParts() {
             int places = count;
             for (int k = 0; k < places; k++) {
-                int code = terms.cells[where[k]];
-                int operator = code < FIRST_CODE ? NONE : operatorIn(code);
-                boolean isRow = operator != NONE && signature.axioms[operator] == ROW;
-                boolean isBag = operator != NONE && signature.axioms[operator] == BAG;
-                for (int m = 1; m < mask[k] && (isRow || isBag); m++) {
-                    int size = Integer.bitCount(m);
-                    boolean isBroken = m + Integer.lowestOneBit(m) != Integer.highestOneBit(m) << 1;
-                    if (size == 1) {
-                        int bit = Integer.numberOfTrailingZeros(m);
-                        part[k * MASKS + m] = child[k * MOST_ARGUMENTS + bit];
-                    } else if (isBag || !isBroken) {
-                        part[k * MASKS + m] = add(write(k, m, code - code % CODES + size), k, m);
+                int axioms = heads[k] < 0 ? FREE : signature.axioms[heads[k]];
+                for (int m = 1; m < masks[k] && axioms >= ROW && terms.top < FULL; m++) {
+                    int behind = m + Integer.lowestOneBit(m);
+                    boolean isSideBySide = Integer.bitCount(behind) == 1;
+                    if (Integer.bitCount(m) == 1) {
+                        int first = Integer.numberOfTrailingZeros(m);
+                        part[k * MASKS + m] = child[k * MOST_ARGUMENTS + first];
+                    } else if (axioms == BAG || isSideBySide) {
+                        int at = terms.top;
+                        writePart(k, m);
+                        part[k * MASKS + m] = add(at, terms.top - at, k, m);
                     }
                 }
-                part[k * MASKS + mask[k] % MASKS] = k;
-            }
-            for (int k = 0; k < signature.operators; k++) {
-                unit[k] = signature.identity[k] == NONE ? NONE : add(writeIdentity(k), NONE, 0);
+                part[k * MASKS + masks[k] % MASKS] = k;
             }
         }
 
-        private int write(int place, int chosen, int code) {
-            int at = terms.top;
-            if (at > CELLS - 2 * MOST_SIZE) {
-                return where[place];
-            }
-            int next = at + 1;
-            terms.cells[at] = code;
+        private void writePart(int place, int mask) {
+            int next = terms.top + 1;
+            terms.cells[terms.top] = FIRST_CODE + heads[place] * CODES + Integer.bitCount(mask);
             for (int i = 0; i < MOST_ARGUMENTS; i++) {
-                if ((chosen >> i & 1) == 1) {
-                    int argument = where[child[place * MOST_ARGUMENTS + i]];
-                    int size = terms.end(argument) - argument;
-                    System.arraycopy(terms.cells, argument, terms.cells, next, size);
-                    next += size;
+                if ((mask >> i & 1) == 1) {
+                    int argument = child[place * MOST_ARGUMENTS + i];
+                    System.arraycopy(terms.cells, where[argument], terms.cells, next, sizes[argument]);
+                    next += sizes[argument];
                 }
             }
             terms.top = next;
-            return at;
         }
 
-        private int writeIdentity(int operator) {
-            int at = terms.top;
-            if (at > CELLS - 2 * MOST_SIZE) {
-                return where[0];
+        void addIdentities() {
+            for (int o = 0; o < signature.operators; o++) {
+                unit[o] = NONE;
+                if (signature.identity[o] != NONE && terms.top < FULL) {
+                    terms.cells[terms.top] = FIRST_CODE + signature.identity[o] * CODES;
+                    terms.top++;
+                    unit[o] = add(terms.top - 1, 1, 0, 0);
+                }
             }
-            terms.cells[at] = FIRST_CODE + signature.identity[operator] * CODES;
-            terms.top++;
-            return at;
         }
 
         void rankAll() {
@@ -1113,20 +1111,15 @@ public final class RuleForge {
                 }
             }
             rankedAt = terms.top;
-            for (int r = 0; r < different && rankedAt + r < CELLS - MOST_SIZE; r++) {
+            for (int r = 0; r < different && rankedAt + r < FULL; r++) {
                 rank[sorted[r]] = r;
                 terms.cells[rankedAt + r] = where[sorted[r]];
                 terms.top = rankedAt + r + 1;
             }
         }
 
-        boolean hasOperator(int piece, int operator) {
-            int code = terms.cells[where[piece]];
-            return code >= FIRST_CODE && operatorIn(code) == operator;
-        }
-
         int argument(int piece, int place) {
-            return same[child[node[piece] * MOST_ARGUMENTS + place]];
+            return same[child[nodes[piece] * MOST_ARGUMENTS + place]];
         }
 
         /** Which arguments it gives to an operator that is put on it, as bits; bit 0 for itself. */
@@ -1134,22 +1127,15 @@ public final class RuleForge {
             if (unit[operator] != NONE && same[unit[operator]] == piece) {
                 return 0;
             }
-            return hasOperator(piece, operator) ? mask[piece] : 1;
+            return heads[piece] == operator ? masks[piece] : 1;
         }
 
         /** The operator on these of the arguments that the piece gives to it; NONE if there is none. */
-        int partOf(int piece, int operator, int chosen) {
+        int partFor(int piece, int operator, int chosen) {
             if (chosen == 0) {
                 return unit[operator] == NONE ? NONE : same[unit[operator]];
             }
-            return hasOperator(piece, operator) ? same[part[node[piece] * MASKS + chosen]] : piece;
-        }
-
-        int itsSort(int piece) {
-            if (sorts[piece] == UNKNOWN) {
-                sorts[piece] = terms.sortAt(where[piece]);
-            }
-            return sorts[piece];
+            return heads[piece] == operator ? same[part[nodes[piece] * MASKS + chosen % MASKS]] : piece;
         }
     }
 
@@ -1161,6 +1147,7 @@ public final class RuleForge {
         final Terms terms;
         private final Signature signature;
         private final Pieces pieces;
+        private final int[] sorts = new int[Pieces.MOST];
         private final int[] bound = new int[ALL_VARIABLES];
         private int variables;
         /**
@@ -1191,7 +1178,12 @@ public final class RuleForge {
         int list(int pattern, int subject) {
             pieces.collect(subject);
             pieces.addParts();
+            pieces.addIdentities();
             pieces.rankAll();
+            for (int r = 0; r < pieces.different; r++) {
+                int piece = pieces.sorted[r];
+                sorts[piece] = terms.sortAt(pieces.where[piece]);
+            }
             rankedAt = pieces.rankedAt;
             listAt = terms.top;
             found = 0;
@@ -1207,6 +1199,7 @@ public final class RuleForge {
         int countByTrying(int pattern, int subject) {
             pieces.collect(subject);
             pieces.addParts();
+            pieces.addIdentities();
             pieces.rankAll();
             if (pieces.different > MOST_TRIED) {
                 return NONE;
@@ -1295,7 +1288,7 @@ public final class RuleForge {
                 return;
             }
             int most = signature.variableSort[v % VARIABLES];
-            if (bound[v] == NONE && signature.reaches(pieces.itsSort(piece), most)) {
+            if (bound[v] == NONE && signature.reaches(sorts[piece], most)) {
                 bound[v] = piece;
                 solve(dutyNext[duty]);
                 bound[v] = NONE;
@@ -1315,7 +1308,7 @@ public final class RuleForge {
                 solve(first);
                 return;
             }
-            if (!pieces.hasOperator(piece, operator)) {
+            if (pieces.heads[piece] != operator) {
                 return;
             }
             meetArguments(duty, code % CODES, false);
@@ -1348,23 +1341,21 @@ public final class RuleForge {
             int chosen = left == 1 ? rest : 0;
             int mark = duties;
             for (int way = 0; way < ways; way++) {
-                int piece = pieces.partOf(dutyPiece[duty], operator, chosen);
+                int piece = pieces.partFor(dutyPiece[duty], operator, chosen);
+                int next = dutyNext[duty];
+                if (piece != NONE && left > 1) {
+                    next = addDuty(terms.end(dutyAt[duty]), dutyPiece[duty], next);
+                    dutyOperator[next] = operator;
+                    dutyLeft[next] = left - 1;
+                    dutyMask[next] = rest & ~chosen;
+                }
                 if (piece != NONE) {
-                    int next = left == 1 ? dutyNext[duty] : addRest(duty, rest & ~chosen);
                     solve(addDuty(dutyAt[duty], piece, next));
                     duties = mark;
                 }
                 int more = Integer.lowestOneBit(rest & ~chosen);
                 chosen = isRow ? chosen | more : (chosen - rest) & rest;
             }
-        }
-
-        private int addRest(int duty, int mask) {
-            int rest = addDuty(terms.end(dutyAt[duty]), dutyPiece[duty], dutyNext[duty]);
-            dutyOperator[rest] = dutyOperator[duty];
-            dutyLeft[rest] = dutyLeft[duty] - 1;
-            dutyMask[rest] = mask;
-            return rest;
         }
 
         /** Puts the match in the list, unless it is there. */
@@ -1384,7 +1375,7 @@ public final class RuleForge {
                 high = isBehind ? high : middle;
             }
             int end = listAt + found;
-            if (end > CELLS - 2 * MOST_SIZE || low < end && terms.cells[low] == key) {
+            if (end >= FULL || low < end && terms.cells[low] == key) {
                 return;
             }
             System.arraycopy(terms.cells, low, terms.cells, low + 1, end - low);
@@ -1407,7 +1398,7 @@ public final class RuleForge {
         }
 
         /** The level is the number of conditions in which this is. */
-        int normalForm(int at, int level) {
+        private int normalForm(int at, int level) {
             int mark = terms.top;
             int now = at;
             for (int round = 0; round <= MOST_STEPS; round++) {
@@ -1463,7 +1454,7 @@ public final class RuleForge {
         }
 
         /** Whether the condition of a law holds with a match: 1 if so, 0 if not, or FAILED. */
-        int decide(int law, int matchAt, int ranks, int level) {
+        private int decide(int law, int matchAt, int ranks, int level) {
             if (!laws.hasCondition[law]) {
                 return 1;
             }
@@ -1626,7 +1617,7 @@ public final class RuleForge {
             for (int rule = 0; rule < walker.laws.rules; rule++) {
                 terms.top = WORK_AT;
                 walker.begin(stateAt(state), rule);
-                while (!cut && walker.advance()) {
+                for (int n = 0; n <= MOST_MATCHES && !cut && walker.advance(); n++) {
                     if (used >= MOST_MATCHES || taken >= STEPS_IN_ALL) {
                         cut = true;
                         return true;
@@ -1753,7 +1744,7 @@ public final class RuleForge {
         }
 
         /** What a strategy gives; NONE if it fails, FAILED if it is broken off. */
-        int perform(int part, int at) {
+        private int perform(int part, int at) {
             int last = part - 1;
             switch (kinds[part]) {
                 case USE:
@@ -1845,9 +1836,18 @@ public final class RuleForge {
             }
             upTo = laws.equations;
             count = 0;
-            for (int first = 0; first < upTo; first++) {
-                for (int second = 0; second < upTo && isOpen(first); second++) {
-                    addPairs(first, second);
+            for (int k = 0; k < upTo * upTo; k++) {
+                int first = k / upTo;
+                int second = k % upTo;
+                int left = laws.partAt(first, LEFT);
+                int size = isOpen(first) && isOpen(second) ? terms.end(left) - left : 0;
+                for (int place = first == second ? 1 : 0; place < size && count < MOST_PAIRS; place++) {
+                    if (terms.cells[left + place] >= FIRST_CODE && make(first, second, place)) {
+                        firsts[count] = first;
+                        seconds[count] = second;
+                        places[count] = place;
+                        count++;
+                    }
                 }
             }
         }
@@ -1863,19 +1863,6 @@ public final class RuleForge {
                 }
             }
             return !laws.hasCondition[equation];
-        }
-
-        private void addPairs(int first, int second) {
-            int left = laws.partAt(first, LEFT);
-            int size = isOpen(second) ? terms.end(left) - left : 0;
-            for (int place = first == second ? 1 : 0; place < size && count < MOST_PAIRS; place++) {
-                if (terms.cells[left + place] >= FIRST_CODE && make(first, second, place)) {
-                    firsts[count] = first;
-                    seconds[count] = second;
-                    places[count] = place;
-                    count++;
-                }
-            }
         }
 
         /** Makes both members, if there is such a pair and none is too large. */
