@@ -58,11 +58,11 @@ public final class RuleForge {
     private static final int STATES_AT = LAWS_AT + MOST_LAWS * ALL_PARTS * MOST_SIZE;
     private static final int TESTS_AT = STATES_AT + MOST_STATES * MOST_SIZE;
     private static final int WORK_AT = TESTS_AT + MOST_STRATEGIES * MOST_PARTS * MOST_SIZE;
-    /** Four conditions deep, each with 20 terms that wait and a list of matches, take half of it. */
-    private static final int CELLS = WORK_AT + 60000;
+    /** What 60 steps leave open, and the lists of matches of four conditions, take half of it. */
+    private static final int CELLS = WORK_AT + 20000;
     /** Behind this no term begins, so that there is room for its end. */
     private static final int FULL = CELLS - 2 * MOST_SIZE;
-    private static final int WAITING = 1000;
+    private static final int MOST_WAITING = (MOST_STEPS + 4) * MOST_SIZE;
 
     private final Signature signature;
     private final Terms terms;
@@ -710,7 +710,7 @@ public final class RuleForge {
         /** What lies from here on is free. */
         int top = WORK_AT;
         /** The arguments that wait for their operators. */
-        final int[] waiting = new int[WAITING];
+        final int[] waiting = new int[MOST_WAITING];
         int awaited;
         /** The arguments of the term that is made, and their sizes. */
         private final int[] spread = new int[MOST_ARGUMENTS];
@@ -743,7 +743,7 @@ public final class RuleForge {
         }
 
         void await(int at) {
-            if (awaited < WAITING) {
+            if (awaited < MOST_WAITING) {
                 waiting[awaited] = at;
                 awaited++;
             }
@@ -1384,12 +1384,28 @@ public final class RuleForge {
         }
     }
 
-    /** Reduces terms by the equations. */
+    /**
+     * Reduces terms by the equations. The terms within terms that are open lie on a stack of their
+     * own, as there may be many more of them than a term is deep: what an equation makes has to be
+     * reduced within what is open already.
+     */
     private static final class Reducer {
+        /** The term at first, and what each step makes, open so many terms at the most. */
+        private static final int MOST_OPEN = (MOST_STEPS + 2) * MOST_SIZE;
+        /** Far above what the steps allow. */
+        private static final int MOST_TURNS = 1000000;
         final Terms terms;
         final Laws laws;
         final Matcher matcher;
         int steps;
+        private int open;
+        /** For each open term where it lies, and what was free when it was opened. */
+        private final int[] openAt = new int[MOST_OPEN];
+        private final int[] marks = new int[MOST_OPEN];
+        /** Its next argument, how many are left, and where those that are reduced wait. */
+        private final int[] nexts = new int[MOST_OPEN];
+        private final int[] lefts = new int[MOST_OPEN];
+        private final int[] bases = new int[MOST_OPEN];
 
         Reducer(Laws laws, Matcher matcher) {
             terms = laws.terms;
@@ -1397,36 +1413,66 @@ public final class RuleForge {
             this.matcher = matcher;
         }
 
-        /** The level is the number of conditions in which this is. */
+        /** Returns where the normal form lies, or FAILED. The level is how many conditions this is in. */
         private int normalForm(int at, int level) {
-            int mark = terms.top;
-            int now = at;
-            for (int round = 0; round <= MOST_STEPS; round++) {
-                int code = terms.cells[now];
-                if (code < FIRST_CODE) {
-                    return terms.settle(mark, now);
+            int bottom = open;
+            int result = begin(at);
+            for (int turn = 0; turn < MOST_TURNS && result == NONE; turn++) {
+                int last = open - 1;
+                if (lefts[last] > 0) {
+                    int argument = nexts[last];
+                    nexts[last] = terms.end(argument);
+                    lefts[last]--;
+                    result = begin(argument);
+                } else {
+                    result = finish(last, bottom, level);
                 }
-                int base = terms.awaited;
-                int next = now + 1;
-                for (int i = 0; i < code % CODES; i++) {
-                    int argument = normalForm(next, level);
-                    if (argument < 0) {
-                        return FAILED;
-                    }
-                    terms.await(argument);
-                    next = terms.end(next);
-                }
-                int whole = terms.putOn(operatorIn(code), base);
-                if (whole < 0) {
-                    return FAILED;
-                }
-                int made = terms.cells[whole] < FIRST_CODE ? NONE : rewritten(whole, level);
-                if (made < 0) {
-                    return made == NONE ? terms.settle(mark, whole) : FAILED;
-                }
-                now = terms.settle(mark, made);
             }
-            return FAILED;
+            open = bottom;
+            return result == NONE ? FAILED : result;
+        }
+
+        private int begin(int at) {
+            if (open >= MOST_OPEN) {
+                return FAILED;
+            }
+            marks[open] = terms.top;
+            open++;
+            look(open - 1, at);
+            return NONE;
+        }
+
+        private void look(int place, int at) {
+            int code = terms.cells[at];
+            openAt[place] = at;
+            nexts[place] = at + 1;
+            lefts[place] = code < FIRST_CODE ? 0 : code % CODES;
+            bases[place] = terms.awaited;
+        }
+
+        /** Its arguments are reduced. Returns NONE as long as terms are open above the bottom. */
+        private int finish(int last, int bottom, int level) {
+            int at = openAt[last];
+            int code = terms.cells[at];
+            int whole = code < FIRST_CODE ? at : terms.putOn(operatorIn(code), bases[last]);
+            if (whole < 0) {
+                return FAILED;
+            }
+            int made = terms.cells[whole] < FIRST_CODE ? NONE : rewritten(whole, level);
+            if (made == FAILED) {
+                return FAILED;
+            }
+            if (made != NONE) {
+                look(last, terms.settle(marks[last], made));
+                return NONE;
+            }
+            int form = terms.settle(marks[last], whole);
+            open = last;
+            if (last == bottom) {
+                return form;
+            }
+            terms.await(form);
+            return NONE;
         }
 
         /** What the first equation that can be used makes of a term; NONE if there is none. */

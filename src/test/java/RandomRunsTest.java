@@ -19,8 +19,12 @@ public final class RandomRunsTest {
     private final List<PlainForge.T> ruleLefts = new ArrayList<>();
     private static final TreeMap<String, Integer> SEEN = new TreeMap<>();
 
+    /** 1: above all FREE operators and no conditions, 2: rows and bags, 3: conditions. */
+    private final int profile;
+
     private RandomRunsTest(long seed) {
         this.seed = seed * 0x9E3779B97F4A7C15L + 12345;
+        profile = (int) (seed % 4);
     }
 
     private int below(int bound) {
@@ -54,7 +58,8 @@ public final class RandomRunsTest {
         String want = answer(plain);
         calls++;
         log.append("  ").append(name).append(" -> ").append(want).append('\n');
-        String kind = name.equals("search()") && want.length() < 3 ? name + want : name.substring(0, name.indexOf('(')) + (want.startsWith("throws") ? " " + want
+        boolean isCount = name.equals("search()") || name.equals("complete()");
+        String kind = isCount && want.length() < 3 ? name + want : name.substring(0, name.indexOf('(')) + (want.startsWith("throws") ? " " + want
                 : want.equals("-1") || want.equals("-2") || want.equals("0") ? " " + want : " other");
         SEEN.merge(kind, 1, Integer::sum);
         if (!got.equals(want)) {
@@ -109,7 +114,8 @@ public final class RandomRunsTest {
         }
         int others = 3 + below(5);
         for (int i = 0; i < others; i++) {
-            int axioms = oneIn(2) ? 0 : below(4);
+            int axioms = profile == 1 && !oneIn(6) || oneIn(2) ? 0 : below(4);
+            axioms = profile == 2 && oneIn(2) ? 2 + below(2) : axioms;
             operator(axioms == 0 ? 1 + below(3) : 2, axioms, axioms >= 2 && !oneIn(3) ? below(constants) : -1);
         }
         favourites = new int[3];
@@ -217,7 +223,7 @@ public final class RandomRunsTest {
         }
         List<PlainForge.T> places = left.places();
         build(oneIn(2) ? instance(some(below(3), 3), known) : places.get(below(places.size())));
-        boolean hasCondition = oneIn(3);
+        boolean hasCondition = profile == 1 ? oneIn(20) : profile == 3 ? !oneIn(3) : oneIn(3);
         if (hasCondition) {
             build(instance(some(below(3), 2), known));
             build(instance(some(below(2), 2), known));
@@ -248,7 +254,7 @@ public final class RandomRunsTest {
         int k = below(100);
         int place = below(5) - 1;
         int v = below(4);
-        if (k < (y.equationList.size() < 3 ? 6 : 1)) {
+        if (k < (y.equationList.size() < (profile == 1 ? 6 : 3) ? 6 : 1)) {
             tell(false);
         } else if (k < (y.ruleList.size() < 3 ? 9 : 3)) {
             tell(true);
@@ -287,10 +293,14 @@ public final class RandomRunsTest {
             plan(k);
         } else if (k < 78) {
             both("pairs()", () -> x.pairs(), () -> y.pairs());
-            int p = below(6);
-            both("joins(" + p + ")", () -> x.joins(p), () -> y.joins(p));
+            for (int i = 0; i < (profile == 1 ? 10 : 2); i++) {
+                int p = below(oneIn(4) ? 60 : 6);
+                both("joins(" + p + ")", () -> x.joins(p), () -> y.joins(p));
+            }
         } else if (k < 80) {
-            both("complete()", () -> x.complete(), () -> y.complete());
+            if (profile == 1 && oneIn(2)) {
+                both("complete()", () -> x.complete(), () -> y.complete());
+            }
             both("equations()", () -> x.equations(), () -> y.equations());
         } else {
             actMore(k, place, v);
