@@ -1263,7 +1263,7 @@ public final class RuleForge {
 
         private void solve(int duty) {
             if (duty == NONE) {
-                record();
+                noteMatch();
                 return;
             }
             int mark = duties;
@@ -1359,7 +1359,7 @@ public final class RuleForge {
         }
 
         /** Puts the match in the list, unless it is there. */
-        private void record() {
+        private void noteMatch() {
             int key = 0;
             for (int v = 0; v < VARIABLES; v++) {
                 if ((variables >> v & 1) == 1 && bound[v] != NONE) {
@@ -1791,7 +1791,6 @@ public final class RuleForge {
 
         /** What a strategy gives; NONE if it fails, FAILED if it is broken off. */
         private int perform(int part, int at) {
-            int last = part - 1;
             switch (kinds[part]) {
                 case USE:
                     return useOnce(rules[part], at);
@@ -1799,18 +1798,24 @@ public final class RuleForge {
                     return at;
                 case TEST:
                     return passes(part, at) ? at : NONE;
-                case THEN:
-                    int between = perform(last - sizes[last], at);
-                    return between < 0 ? between : perform(last, between);
-                case ELSE:
-                    int made = perform(last - sizes[last], at);
-                    return made == NONE ? perform(last, at) : made;
+                case MANY:
+                    return performAgain(part - 1, at);
                 default:
-                    return repeat(last, at);
+                    return performTwo(part, at);
             }
         }
 
-        private int repeat(int part, int at) {
+        private int performTwo(int part, int at) {
+            int second = part - 1;
+            int first = second - sizes[second];
+            int made = perform(first, at);
+            if (kinds[part] == THEN) {
+                return made < 0 ? made : perform(second, made);
+            }
+            return made == NONE ? perform(second, at) : made;
+        }
+
+        private int performAgain(int part, int at) {
             int now = at;
             for (int round = 0; round < MOST_ROUNDS; round++) {
                 int made = perform(part, now);
