@@ -151,7 +151,7 @@ public final class SearchesTest {
         Bench.due("180 steps", stepsOf(5, "n(a,b,c,d,e)"), "1 false");
         Bench.due("203 steps before the last match", stepsOf(6, "n(a,b,c,d,e)"), "1 true");
         Bench.due("those of the first term count", stepsOf(5, Bench.times("s", 14, "n(a,b,c,d,e)")), "1 false");
-        Bench.due("174 and 26 steps before the last match",
+        Bench.due("14 and 174 steps before the last match",
                 stepsOf(5, "n(" + Bench.times("s", 14, "a") + ",b,c,d,e)"), "1 false");
         Bench c = usual();
         c.rule("a", "b");
