@@ -1130,6 +1130,18 @@ public final class RuleForge {
             return heads[piece] == operator ? masks[piece] : 1;
         }
 
+        /** Whether one of two same arguments side by side is left, and the other one chosen: the first ones do. */
+        boolean passesOver(int piece, int chosen, int rest) {
+            int behind = chosen & (rest & ~chosen) << 1;
+            for (int i = 1; i < MOST_ARGUMENTS && behind != 0; i++) {
+                int at = nodes[piece] * MOST_ARGUMENTS + i;
+                if ((behind >> i & 1) == 1 && same[child[at]] == same[child[at - 1]]) {
+                    return true;
+                }
+            }
+            return false;
+        }
+
         /** The operator on these of the arguments that the piece gives to it; NONE if there is none. */
         int partFor(int piece, int operator, int chosen) {
             if (chosen == 0) {
@@ -1341,7 +1353,8 @@ public final class RuleForge {
             int chosen = left == 1 ? rest : 0;
             int mark = duties;
             for (int way = 0; way < ways; way++) {
-                int piece = pieces.partFor(dutyPiece[duty], operator, chosen);
+                boolean isTwice = !isRow && pieces.passesOver(dutyPiece[duty], chosen, rest);
+                int piece = isTwice ? NONE : pieces.partFor(dutyPiece[duty], operator, chosen);
                 int next = dutyNext[duty];
                 if (piece != NONE && left > 1) {
                     next = addDuty(terms.end(dutyAt[duty]), dutyPiece[duty], next);

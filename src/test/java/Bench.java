@@ -97,7 +97,7 @@ final class Bench {
         return number;
     }
 
-    /** One sort, the constants a to e, i and o, and s/1, g/2, h/3, a PAIR p, a ROW r and a BAG b, both with the identity i. */
+    /** One sort, the constants a to e, i and o, and s/1, g/2, h/3, a PAIR p, a ROW r and a BAG m, both with the identity i. */
     static Bench usual() {
         Bench bench = new Bench();
         bench.x.sort();
@@ -109,6 +109,49 @@ final class Bench {
         bench.op("r", 2, RuleForge.ROW, "i");
         bench.op("m", 2, RuleForge.BAG, "i");
         return bench;
+    }
+
+    /** Three sorts, and operators with all axioms; no equations and rules. */
+    static Bench sorted() {
+        Bench b = new Bench();
+        for (int i = 0; i < 3; i++) {
+            b.x.sort();
+        }
+        b.x.below(0, 1);
+        b.x.variable(1, 1);
+        b.x.variable(2, 2);
+        b.constants("a b c i");
+        b.op("s", 1);
+        b.op("g", 2);
+        b.op("h", 3);
+        b.op("p", 2, RuleForge.PAIR, "");
+        b.op("r", 2, RuleForge.ROW, "i");
+        b.op("m", 2, RuleForge.BAG, "i");
+        b.op("n", 2, RuleForge.BAG, "");
+        b.x.declare(b.number("s"), 1, 1, 0, 0);
+        return b;
+    }
+
+    /** The same with some of everything else: equations, rules, weights, views, a search, strategies, slots and terms. */
+    static Bench rich() {
+        Bench b = sorted();
+        b.equation("s(s(x0))", "x0");
+        b.equation("g(x0,c)", "b", "x0", "c");
+        b.equation("s(g(x0,x1))", "h(x0,x1,a)");
+        b.rule("a", "b");
+        b.rule("b", "c", "a", "a");
+        b.rule("g(x0,x1)", "g(x1,x0)");
+        b.x.weight(b.number("s"), 0, 2);
+        b.x.weight(b.number("g"), 2, 3);
+        b.x.view(b.number("a"), b.number("b"));
+        b.search("g(a,b)");
+        b.x.use(0);
+        b.put("g(x0,x3)").x.test();
+        b.x.use(2);
+        b.x.both(true);
+        b.put("s(x0)").x.keep(0);
+        b.put("m(a,b)").x.keep(19);
+        return b.put("n(x0,x3)").put("n(a,b,c)").put("g(s(s(a)),b)");
     }
 
     // ---- terms
