@@ -233,6 +233,20 @@ public final class MatchEdgesTest {
         Bench.due("5 for one of 2", b.given("n(x0,a)", "n(a,b,c,d,e)", 0), "n(b,c,d,e)");
     }
 
+    /** Patterns of a size of 19, of nine PAIRs, which can be turned round in many ways. */
+    private static void manyPairs() {
+        Bench b = usual();
+        String nine = "p(".repeat(9) + "b" + ",a)".repeat(9);
+        Bench.due("itself", b.matches(nine, nine), "1 -1");
+        String open = "p(".repeat(9) + "b" + ",a)".repeat(6) + ",x2),x1),x0)";
+        Bench.due("a variable for each of the first three", b.matches(open, nine), "1 -1");
+        String rising = "p(x0,p(x1,x2))";
+        Bench.due("the one that is a PAIR is the last one", b.matches(rising, "p(c,p(a,b))"), "2 2");
+        Bench.due("all of three PAIRs", b.matches("p(p(x0,x1),p(x0,x2))", "p(p(a,b),p(a,c))"), "2 2");
+        Bench.due("all of three PAIRs of the same", b.matches("p(p(x0,x1),p(x0,x2))", "p(p(a,b),p(a,b))"), "2 2");
+        Bench.due("one open at the end", b.matches("p(".repeat(8) + "p(x0,x1)" + ",a)".repeat(8), nine), "2 -1");
+    }
+
     /** Terms of a size of 20, with the same arguments so often that each must not be tried for each. */
     private static void manySame() {
         Bench b = usual();
@@ -258,6 +272,7 @@ public final class MatchEdgesTest {
         eightTerms();
         eightWithoutSorts();
         leastSubjects();
+        manyPairs();
         manySame();
         Bench.end();
     }

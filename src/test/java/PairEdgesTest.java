@@ -109,6 +109,48 @@ public final class PairEdgesTest {
         Bench.due("pairs of " + one + " and " + other, b.x.pairs(), due);
     }
 
+    /** "Of two variables the one with the higher number being given the other one", and in all that was given before. */
+    private static void given() {
+        Bench least = usual();
+        least.equation("g(x0,x1)", "x0");
+        least.equation("g(x0,a)", "x0");
+        Bench.due("both members the variable 0", joined(least), "2: 1 1");
+        Bench later = usual();
+        later.equation("g(s(x0),x0)", "s(x0)");
+        later.equation("g(x0,a)", "x0");
+        Bench.due("what a variable was given before has one that is given something", joined(later), "2: 1 1");
+        Bench sorts = new Bench();
+        sorts.x.sort();
+        sorts.x.sort();
+        sorts.x.variable(9, 1);
+        sorts.constants("a b");
+        sorts.op("t", 1);
+        sorts.op("g", 2);
+        sorts.equation("g(x9,a)", "t(x9)");
+        sorts.equation("g(x8,x7)", "t(b)");
+        sorts.equation("t(x8)", "b");
+        Bench.due("9 stays, not 18, which has another sort", joined(sorts), "2: 0 1");
+    }
+
+    /** "Conditions within conditions more than 3 deep", when members are reduced. */
+    private static void deepMembers() {
+        for (int deep = 3; deep <= 4; deep++) {
+            for (int side = 0; side < 2; side++) {
+                Bench b = new Bench();
+                b.x.sort();
+                b.constants("k0 k1 k2 k3 k4 o a b");
+                b.op("g", 2);
+                b.equation("g(x0,a)", side == 0 ? "k" + (4 - deep) : "o");
+                b.equation("g(b,x0)", side == 0 ? "o" : "k" + (4 - deep));
+                for (int i = 0; i < 4; i++) {
+                    b.equation("k" + i, "o", "k" + (i + 1), "o");
+                }
+                b.equation("k4", "o");
+                Bench.due(deep + " deep in the member " + side, joined(b), deep == 3 ? "2: 1 1" : "2: -2 -2");
+            }
+        }
+    }
+
     /** "Only the first 60 count": 59, 60 and 61. */
     private static void sixtyPairs() {
         exactly(59, 1, "t(t(x0))", "x0");
@@ -131,6 +173,7 @@ public final class PairEdgesTest {
         Bench.due("pairs() of " + count, b.x.pairs(), due);
         Bench.due("the last one of " + count, b.x.joins(due - 1), last);
         Bench.index("behind it", () -> b.x.joins(due));
+        Bench.due("complete() with " + count, b.x.complete(), 0);
     }
 
     /** "Pairs of which a member would be too large, or the term that both come from, do not count." */
@@ -245,6 +288,36 @@ public final class PairEdgesTest {
         Bench.due(what, b.x.descends(b.equation(left, right)), due);
     }
 
+    /** "Of a ROW or BAG with more than two arguments of the first two so, then of that and the third one". */
+    private static void rows() {
+        for (String o : new String[] {"r", "m"}) {
+            Bench b = usual();
+            b.x.weight(b.number(o), 0, 5);
+            b.x.weight(b.number(o), 1, 2);
+            b.x.weight(b.number(o), 2, 3);
+            b.x.weight(b.number("b"), 0, 0);
+            b.x.weight(b.number("t"), 0, 0);
+            b.x.weight(b.number("t"), 1, 2);
+            int[] values = {10, 28, 64, 136};
+            String term = o + "(a,a)";
+            for (int k = 0; k < 4; k++) {
+                descends("the value " + values[k] + " of " + (k + 2), b, true, term, valued(values[k] - 1));
+                descends("not more than " + values[k], b, false, term, valued(values[k]));
+                term = term.replace(")", ",a)");
+            }
+        }
+    }
+
+    /** A term that has the value, where b is worth 0, s adds 1 to one, and t takes one twice. */
+    private static String valued(int value) {
+        String term = "b";
+        for (int bit = 7; bit >= 0; bit--) {
+            term = term.equals("b") ? term : "t(" + term + ")";
+            term = (value >> bit & 1) == 1 ? "s(" + term + ")" : term;
+        }
+        return term;
+    }
+
     /** Numbers that are greater than the greatest int. */
     private static void greatNumbers() {
         Bench b = usual();
@@ -353,6 +426,62 @@ public final class PairEdgesTest {
             Bench.due("three of a sort that " + count + " have", b.x.complete(), count >= 3 ? 1 : 0);
             Bench.due("the new one", b.reduced("g(h(c,c,b),c)"), count >= 3 ? "1 a" : "0 g(h(c,c,b),c)");
             Bench.due("no other sort", b.reduced("g(h(c,a,b),c)"), "0 g(h(c,a,b),c)");
+        }
+    }
+
+    /** "In the order in which they come first": the lowest variable of the new equation is the first one in it. */
+    private static void orderOfNumbers() {
+        Bench b = usual();
+        b.op("n", 2, RuleForge.BAG, "");
+        b.equation("t(h(x3,x4,x1))", "g(n(x3,x4),n(x1,x3))");
+        b.equation("t(h(x3,x4,x1))", "x3");
+        Bench.due("complete()", b.x.complete(), 1);
+        Bench.due("the first match has the first variable's lowest term", b.reduced("g(n(a,b),n(a,b))"), "1 a");
+        Bench.due("the other variables", b.reduced("g(n(c,b),n(a,b))"), "1 b");
+        Bench only = new Bench();
+        only.x.sort();
+        only.x.sort();
+        only.x.variable(0, 1);
+        int c = only.bare("c", 0, 0, "");
+        only.x.declare(c, 1, 0, 0, 0);
+        only.constants("a");
+        only.op("t", 1);
+        only.op("g", 2);
+        only.equation("g(x0,a)", "t(x0)");
+        only.equation("g(x0,a)", "x0");
+        Bench.due("the variable 0 is the only one of its sort", only.x.complete(), 1);
+        Bench.due("the new one", only.reduced("t(c)"), "1 c");
+        Bench.due("not for another sort", only.reduced("t(a)"), "0 t(a)");
+        Bench higher = usual();
+        higher.equation("s(t(x0))", "t(x0)");
+        higher.equation("t(s(x0))", "x0");
+        Bench.due("a pair of the variable 10", higher.x.complete() > 0, true);
+        Bench.due("s takes nothing away", higher.reduced("s(c)"), "1 c");
+    }
+
+    /** "Behind 300 steps that it took": what was taken before does not count. */
+    private static void stepsBefore() {
+        for (int calls = 0; calls <= 20; calls += 10) {
+            Bench b = new Bench();
+            b.x.sort();
+            b.constants("k0 k1 k2 k3 k4 k5 k6 a b c");
+            b.op("s", 1);
+            b.op("f", 2);
+            b.op("g", 2);
+            String twelve = "f(k0,k0)";
+            b.equation("g(x0,a)", twelve);
+            b.equation("g(a,x0)", twelve);
+            b.equation("s(a)", "b");
+            b.equation("s(x0)", "c");
+            for (int i = 0; i < 6; i++) {
+                b.equation("k" + i, "k" + (i + 1));
+            }
+            for (int i = 0; i < calls; i++) {
+                Bench.due("joins(0)", b.x.joins(0), 1);
+            }
+            Bench.due("complete() that adds none", b.x.complete(), 0);
+            b.x.weight(b.number("b"), 0, 2);
+            Bench.due("complete() behind " + calls + " calls of joins()", b.x.complete(), 1);
         }
     }
 
@@ -509,19 +638,24 @@ public final class PairEdgesTest {
         places();
         openEquations();
         unlike();
+        given();
+        deepMembers();
         sixtyPairs();
         sizes();
         stepsOfMembers();
         weights();
         above();
+        rows();
         greatNumbers();
         nothingToDo();
         oriented();
         twelveEquations();
         threeVariables();
         newNumbers();
+        orderOfNumbers();
         failing();
         threeHundredSteps();
+        stepsBefore();
         views();
         twelveCopies();
         formsOfCopies();

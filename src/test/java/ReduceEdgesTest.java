@@ -247,6 +247,23 @@ public final class ReduceEdgesTest {
         Bench.due("then another one", b.reduced("g(a,a)"), "2 g(b,b)");
     }
 
+    /** What fails leaves nothing behind, however often. */
+    private static void failingOften() {
+        Bench b = Bench.usual();
+        b.equation("c", "g(c,c)");
+        b.equation("d", "e", "d", "d");
+        b.put(Bench.times("s", 9, "c"));
+        b.put(Bench.times("s", 9, "d"));
+        b.x.keep(1);
+        for (int i = 0; i < 100; i++) {
+            Bench.due("too large", b.x.reduce(), RuleForge.FAILED);
+            b.x.load(1);
+            Bench.due("too deep", b.x.reduce(), RuleForge.FAILED);
+            b.x.keep(1);
+        }
+        Bench.due("then another one", b.reduced(Bench.times("s", 19, "a")), "0 " + Bench.times("s", 19, "a"));
+    }
+
     /** "(There it is not looked at sorts of terms, but in matches.)" */
     private static void sortsInReducing() {
         Bench b = new Bench();
@@ -365,6 +382,7 @@ public final class ReduceEdgesTest {
         tooLarge();
         variables();
         failing();
+        failingOften();
         sortsInReducing();
         firstOnes();
         sets();

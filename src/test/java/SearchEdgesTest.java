@@ -168,6 +168,7 @@ public final class SearchEdgesTest {
         c.equation("k3", "o");
         c.rule("z", "k0");
         Bench.due("3 deep in what one goes on to", c.search("z"), 2);
+        Bench.due("3 deep in the first term", c.search("k0"), 1);
     }
 
     /** "A search fails if reducing fails": at first, in a condition, afterwards, or if a term is too large. */

@@ -314,6 +314,35 @@ public final class StrategyEdgesTest {
         }
     }
 
+    /** "On the top, reduced": with 60 steps, and with conditions 3 deep, counted anew. */
+    private static void reducedFirst() {
+        Bench b = new Bench();
+        b.x.sort();
+        b.constants("k0 k1 k2 k3 k4 k5 k6 c0 c1 c2 c3");
+        b.op("g", 2);
+        b.op("s", 1);
+        for (int i = 0; i < 6; i++) {
+            b.equation("k" + i, "k" + (i + 1));
+        }
+        b.equation("s(x0)", "x0");
+        for (int i = 0; i < 3; i++) {
+            b.equation("c" + i, "k6", "c" + (i + 1), "k6");
+        }
+        b.equation("c3", "k6");
+        String ten = "g(".repeat(9) + "k0" + ",k0)".repeat(9);
+        b.x.idle();
+        Bench.due("60 steps", b.run(ten), "0 " + ten.replace("k0", "k6"));
+        b.x.idle();
+        Bench.due("61 steps", b.run("s(" + ten + ")"), "-2 s(" + ten + ")");
+        b.x.idle();
+        Bench.due("3 deep", b.run("c0"), "0 k6");
+        b.rule("k6", ten);
+        b.x.use(0);
+        Bench.due("60 steps, and 60 of a USE", b.run("g(" + "g(".repeat(8) + "k0" + ",k0)".repeat(8) + ",c1)").substring(0, 2), "-2");
+        b.x.use(0);
+        Bench.due("60 steps of a USE", b.run("c0"), "1 " + ten.replace("k0", "k6"));
+    }
+
     /** "NONE if it fails; FAILED if it is broken off, or reducing fails; the top stays in both cases." */
     private static void tops() {
         Bench b = usual();
@@ -399,6 +428,7 @@ public final class StrategyEdgesTest {
         thirtyRounds();
         matches();
         twoHundredSteps();
+        reducedFirst();
         tops();
         both();
         tests();

@@ -331,6 +331,51 @@ public final class TermEdgesTest {
         Bench.due("a sort below", b.sort("s(n)"), 0);
     }
 
+    /** "The sort of the first argument ... of the second argument ... of the third argument", each its own. */
+    private static void sortsOfEach() {
+        Bench b = new Bench();
+        for (int i = 0; i < 4; i++) {
+            b.x.sort();
+        }
+        for (int v = 0; v < 4; v++) {
+            b.x.variable(v, v);
+        }
+        int h = b.bare("h", 3, 0, "");
+        b.x.declare(h, 3, 0, 1, 2);
+        for (int k = 0; k < 64; k++) {
+            String term = "h(x" + k / 16 + ",x" + k / 4 % 4 + ",x" + k % 4 + ")";
+            Bench.due("the sort of " + term, b.sort(term), term.equals("h(x0,x1,x2)") ? 3 : NONE);
+        }
+    }
+
+    /** "The first two are taken so, then the result and the third one, and so on": up to the fifth. */
+    private static void sortsOfRows() {
+        for (int axioms : new int[] {RuleForge.ROW, RuleForge.BAG}) {
+            Bench b = new Bench();
+            for (int i = 0; i < 6; i++) {
+                b.x.sort();
+            }
+            for (int v = 0; v < 6; v++) {
+                b.x.variable(v, v);
+            }
+            int r = b.bare("r", 2, axioms, "");
+            b.x.declare(r, 2, 0, 1, 0);
+            b.x.declare(r, 4, 2, 3, 0);
+            b.x.declare(r, 0, 4, 5, 0);
+            Bench.due("two", b.sort("r(x0,x1)"), 2);
+            Bench.due("two, none told", b.sort("r(x0,x2)"), NONE);
+            Bench.due("three", b.sort("r(x0,x1,x3)"), 4);
+            Bench.due("three, the last one not told", b.sort("r(x0,x1,x4)"), NONE);
+            Bench.due("four", b.sort("r(x0,x1,x3,x5)"), 0);
+            Bench.due("four, the last one not told", b.sort("r(x0,x1,x3,x3)"), NONE);
+            Bench.due("three, the first two not told", b.sort("r(x1,x3,x5)"), NONE);
+            if (axioms == RuleForge.ROW) {
+                Bench.due("five", b.sort("r(x0,x1,x3,x5,x1)"), 2);
+                Bench.due("five, the last one not told", b.sort("r(x0,x1,x3,x5,x5)"), NONE);
+            }
+        }
+    }
+
     // ---- the stack and the slots
 
     /** "Puts a variable on the stack"; at most 10 terms. */
@@ -429,6 +474,8 @@ public final class TermEdgesTest {
         twenty();
         orders();
         noSort();
+        sortsOfEach();
+        sortsOfRows();
         tenTerms();
         twentySlots();
         codes();
