@@ -241,6 +241,8 @@ public final class MatchEdgesTest {
         String open = "p(".repeat(9) + "b" + ",a)".repeat(6) + ",x2),x1),x0)";
         Bench.due("a variable for each of the first three", b.matches(open, nine), "1 -1");
         String rising = "p(x0,p(x1,x2))";
+        Bench.due("three arguments first", b.matches("h(x0,x1,x2)", "h(b,c,d)"), "1 1");
+        Bench.due("then a PAIR of one and another one with that", b.matches("p(x0,x1)", "p(a,s(a))"), "2 2");
         Bench.due("the one that is a PAIR is the last one", b.matches(rising, "p(c,p(a,b))"), "2 2");
         Bench.due("all of three PAIRs", b.matches("p(p(x0,x1),p(x0,x2))", "p(p(a,b),p(a,c))"), "2 2");
         Bench.due("all of three PAIRs of the same", b.matches("p(p(x0,x1),p(x0,x2))", "p(p(a,b),p(a,b))"), "2 2");

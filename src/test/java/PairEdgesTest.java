@@ -452,6 +452,12 @@ public final class PairEdgesTest {
         Bench.due("the variable 0 is the only one of its sort", only.x.complete(), 1);
         Bench.due("the new one", only.reduced("t(c)"), "1 c");
         Bench.due("not for another sort", only.reduced("t(a)"), "0 t(a)");
+        Bench matched = usual();
+        matched.equation("g(x3,a)", "h(s(s(b)),x3,x3)");
+        matched.equation("g(x3,a)", "x3");
+        matched.equation("s(s(x3))", "s(x3)");
+        Bench.due("what a variable was given when the members were reduced is no matter", matched.x.complete(), 1);
+        Bench.due("the new one", matched.reduced("h(s(b),c,c)"), "1 c");
         Bench higher = usual();
         higher.equation("s(t(x0))", "t(x0)");
         higher.equation("t(s(x0))", "x0");

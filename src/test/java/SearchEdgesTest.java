@@ -228,6 +228,21 @@ public final class SearchEdgesTest {
         Bench.index("how one came to them, too", () -> b.x.cameBy(1));
     }
 
+    /** The variables of the term stay, also those that the rule and its condition have. */
+    private static void variablesOfTerms() {
+        Bench b = usual();
+        b.rule("s(x0)", "x0", "x0", "b");
+        b.rule("h(x0,x1,x2)", "g(x2,x1)");
+        Bench.due("a variable that the rule has", b.search("g(x0,s(b))"), 2);
+        Bench.due("it stays", b.states(2), "g(x0,s(b)) g(x0,b)");
+        Bench.due("three that the rule has", b.search("m(x0,x1,x2,h(a,b,c))"), 2);
+        Bench.due("they stay", b.states(2), "m(x0,x1,x2,h(a,b,c)) m(x0,x1,x2,g(c,b))");
+        b.x.use(1);
+        Bench.due("in a run, too", b.run("h(h(x0,a,b),x1,s(x2))"), "1 g(s(x2),x1)");
+        b.x.use(0);
+        Bench.due("and by a condition", b.run("m(x0,s(b),s(x0))"), "1 m(x0,b,s(x0))");
+    }
+
     // ---- what is asked of a search
 
     /** "Puts a state of the search on the stack"; "not 0" for how one came to it. */
@@ -403,6 +418,7 @@ public final class SearchEdgesTest {
         threeDeep();
         failures();
         inPlace();
+        variablesOfTerms();
         states();
         finds();
         oneState();
