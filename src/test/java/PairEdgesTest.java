@@ -453,11 +453,11 @@ public final class PairEdgesTest {
         Bench.due("the new one", only.reduced("t(c)"), "1 c");
         Bench.due("not for another sort", only.reduced("t(a)"), "0 t(a)");
         Bench matched = usual();
-        matched.equation("g(x3,a)", "h(s(s(b)),x3,x3)");
+        matched.equation("g(x3,a)", "h(s(s(b)),x3,a)");
         matched.equation("g(x3,a)", "x3");
         matched.equation("s(s(x3))", "s(x3)");
         Bench.due("what a variable was given when the members were reduced is no matter", matched.x.complete(), 1);
-        Bench.due("the new one", matched.reduced("h(s(b),c,c)"), "1 c");
+        Bench.due("the new one", matched.reduced("h(s(b),c,a)"), "1 c");
         Bench higher = usual();
         higher.equation("s(t(x0))", "t(x0)");
         higher.equation("t(s(x0))", "x0");
@@ -601,6 +601,28 @@ public final class PairEdgesTest {
         Bench.due("the first and the copies", b.reduced("s(t(a))"), "2 a");
     }
 
+    /** "To copy an equation": whatever its variables were given in the calls before. */
+    private static void copiesAfterMatches() {
+        Bench b = usual();
+        b.equation("g(x0,x1)", "x1", "x0", "x0");
+        b.equation("s(s(x0))", "s(x0)");
+        b.x.view(b.number("g"), b.number("g"));
+        b.put("g(x0,x1)").put("g(c,d)");
+        Bench.due("a match", b.x.match(0, 0), 3);
+        Bench.due("a copy", b.x.copy(0), 2);
+        Bench.due("no pair but that of the other one", b.x.pairs(), 1);
+        b.put("s(s(e))");
+        Bench.due("steps", b.x.reduce(), 1);
+        b.x.view(b.number("s"), b.number("t"));
+        Bench.due("a copy of that", b.x.copy(1), 3);
+        Bench.due("it is for all terms", b.reduced("t(t(a))"), "1 t(a)");
+        b.put("g(a,b)");
+        Bench.due("so is the first copy", b.x.matching(), 5);
+        b.x.search();
+        b.put("t(t(b))");
+        Bench.due("and the last one", b.x.matching(), 8);
+    }
+
     /** "The left side would be a variable", "or one would be too large". */
     private static void formsOfCopies() {
         Bench b = usual();
@@ -664,6 +686,7 @@ public final class PairEdgesTest {
         stepsBefore();
         views();
         twelveCopies();
+        copiesAfterMatches();
         formsOfCopies();
         Bench.end();
     }
